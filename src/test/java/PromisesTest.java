@@ -35,53 +35,6 @@ public final class PromisesTest {
         DUE.end();
     }
 
-    private static TogetherOrders parts(int n) {
-        TogetherOrders x = new TogetherOrders();
-        for (int i = 0; i < n; i++) {
-            x.part();
-        }
-        return x;
-    }
-
-    /** A box of all three sizes. */
-    private static void block(TogetherOrders x, int part, long[] from, long[] size) {
-        int box = x.box(part, from[0], from[1], from[2], size[0], size[1]);
-        x.deep(box, size[2]);
-    }
-
-    private static long[] at(long x, long y, long z) {
-        return new long[] {x, y, z};
-    }
-
-    /** Walls of thickness 1 round a hollow cube of the given edge that begins at 0, 0, 0. */
-    private static void shell(TogetherOrders x, int part, long edge, boolean lid) {
-        block(x, part, at(-1, -1, -1), at(1, edge + 2, edge + 2));
-        block(x, part, at(edge, -1, -1), at(1, edge + 2, edge + 2));
-        block(x, part, at(-1, -1, -1), at(edge + 2, 1, edge + 2));
-        block(x, part, at(-1, edge, -1), at(edge + 2, 1, edge + 2));
-        block(x, part, at(-1, -1, -1), at(edge + 2, edge + 2, 1));
-        if (lid) {
-            block(x, part, at(-1, -1, edge), at(edge + 2, edge + 2, 1));
-        }
-    }
-
-    /** Part 0 is a closed shell with part 1 in it: both are locked. */
-    private static TogetherOrders lockedPair() {
-        TogetherOrders x = parts(2);
-        shell(x, 0, 3, true);
-        block(x, 1, at(1, 1, 1), at(1, 1, 1));
-        return x;
-    }
-
-    /** A cup open along z, a thing in it, and a lid upon it: parts 0, 1, 2. */
-    private static TogetherOrders cup() {
-        TogetherOrders x = parts(3);
-        shell(x, 0, 3, false);
-        block(x, 1, at(0, 0, 0), at(3, 3, 3));
-        block(x, 2, at(-1, -1, 4), at(5, 5, 1));
-        return x;
-    }
-
     private static void promise1() {
         TogetherOrders x = new TogetherOrders();
         DUE.is("1: NONE", -1, NONE);
@@ -93,13 +46,13 @@ public final class PromisesTest {
         DUE.noState("1: two before run", () -> x.two(0));
         DUE.noState("1: hands before run", () -> x.hands(1, 0));
         DUE.noState("1: out before run", () -> x.out(0));
-        DUE.noState("1: keeps before run", () -> Due.bit(x.keeps()));
-        DUE.noIndex("1: free of no part", () -> Due.bit(x.free(0, 0, 0)));
-        DUE.noIndex("1: group of no parts", () -> Due.bit(x.group(0, 0)));
-        DUE.noIndex("1: glue of no parts", () -> Due.bit(x.glue(0, 0, -1)));
+        DUE.noState("1: keeps before run", () -> x.keeps());
+        DUE.noIndex("1: free of no part", () -> x.free(0, 0, 0));
+        DUE.noIndex("1: group of no parts", () -> x.group(0, 0));
+        DUE.noIndex("1: glue of no parts", () -> x.glue(0, 0, -1));
         DUE.noIndex("1: clamp of no parts", () -> x.clamp(0, 0, -1));
         DUE.noIndex("1: box of no part", () -> x.box(0, 0, 0, 0, 0, 0));
-        DUE.noIndex("1: deep of no box", () -> Due.bit(x.deep(0, 0)));
+        DUE.noIndex("1: deep of no box", () -> x.deep(0, 0));
         DUE.is("1: run", 0, x.run());
         DUE.noIndex("1: no step", () -> x.step(0, 9));
         DUE.is("1: apart", NONE, x.apart(0));
@@ -129,7 +82,7 @@ public final class PromisesTest {
     }
 
     private static void promise3() {
-        TogetherOrders x = parts(2);
+        TogetherOrders x = Things.parts(2);
         DUE.is("3: first", 0, x.box(1, -M, -M, -M, M, M));
         DUE.is("3: second", 1, x.box(0, M, M, M, 1, 1));
         DUE.noIndex("3: part -1", () -> x.box(-1, 0, 0, 0, 1, 1));
@@ -152,7 +105,7 @@ public final class PromisesTest {
     }
 
     private static void promise4() {
-        TogetherOrders x = parts(2);
+        TogetherOrders x = Things.parts(2);
         x.box(0, 0, 0, 0, 1, 1);
         x.box(1, 0, 0, 2, 1, 1);
         DUE.is("4: 1 at first", false, x.deep(0, 1));
@@ -163,41 +116,41 @@ public final class PromisesTest {
         DUE.is("4: 2, touching", true, x.deep(0, 2));
         DUE.is("4: touching is free", true, x.free(0, 0, 2));
         DUE.is("4: greatest", true, x.deep(1, M));
-        DUE.noIndex("4: box -1", () -> Due.bit(x.deep(-1, 1)));
-        DUE.noIndex("4: box 2", () -> Due.bit(x.deep(2, 0)));
-        DUE.noArgument("4: 0", () -> Due.bit(x.deep(0, 0)));
-        DUE.noArgument("4: -1", () -> Due.bit(x.deep(0, -1)));
-        DUE.noArgument("4: too great", () -> Due.bit(x.deep(0, M + 1)));
-        DUE.noArgument("4: far too great", () -> Due.bit(x.deep(0, Long.MAX_VALUE)));
+        DUE.noIndex("4: box -1", () -> x.deep(-1, 1));
+        DUE.noIndex("4: box 2", () -> x.deep(2, 0));
+        DUE.noArgument("4: 0", () -> x.deep(0, 0));
+        DUE.noArgument("4: -1", () -> x.deep(0, -1));
+        DUE.noArgument("4: too great", () -> x.deep(0, M + 1));
+        DUE.noArgument("4: far too great", () -> x.deep(0, Long.MAX_VALUE));
         DUE.is("4: unchanged", false, x.deep(0, 2));
         DUE.is("4: unchanged", false, x.deep(1, M));
     }
 
     private static void promise5() {
-        TogetherOrders x = parts(1);
-        DUE.noIndex("5: direction 6 is not told", () -> Due.bit(x.free(0, 6, 0)));
-        DUE.noArgument("5: all 0", () -> Due.bit(x.slant(0, 0, 0)));
+        TogetherOrders x = Things.parts(1);
+        DUE.noIndex("5: direction 6 is not told", () -> x.free(0, 6, 0));
+        DUE.noArgument("5: all 0", () -> x.slant(0, 0, 0));
         long[] bad = {1001, -1001, Long.MAX_VALUE, Long.MIN_VALUE, 4294967297L};
         for (long b : bad) {
-            DUE.noArgument("5: x", () -> Due.bit(x.slant(b, 0, 0)));
-            DUE.noArgument("5: y", () -> Due.bit(x.slant(0, b, 0)));
-            DUE.noArgument("5: z", () -> Due.bit(x.slant(0, 0, b)));
+            DUE.noArgument("5: x", () -> x.slant(b, 0, 0));
+            DUE.noArgument("5: y", () -> x.slant(0, b, 0));
+            DUE.noArgument("5: z", () -> x.slant(0, 0, b));
         }
-        DUE.noIndex("5: still not", () -> Due.bit(x.free(0, 6, 0)));
+        DUE.noIndex("5: still not", () -> x.free(0, 6, 0));
         DUE.is("5: first", true, x.slant(1000, -1000, 1000));
         DUE.is("5: direction 6", true, x.free(0, 6, 1));
-        DUE.noIndex("5: direction 7", () -> Due.bit(x.free(0, 7, 0)));
+        DUE.noIndex("5: direction 7", () -> x.free(0, 7, 0));
         DUE.is("5: same again is one more", true, x.slant(1000, -1000, 1000));
         DUE.is("5: third", true, x.slant(0, 0, 1));
         DUE.is("5: fourth", true, x.slant(-1000, 0, 0));
         DUE.is("5: direction 9", true, x.free(0, 9, 1));
         DUE.is("5: no room", false, x.slant(1, 1, 1));
-        DUE.noArgument("5: no room, all 0", () -> Due.bit(x.slant(0, 0, 0)));
-        DUE.noIndex("5: direction 10", () -> Due.bit(x.free(0, 10, 0)));
+        DUE.noArgument("5: no room, all 0", () -> x.slant(0, 0, 0));
+        DUE.noIndex("5: direction 10", () -> x.free(0, 10, 0));
     }
 
     private static void promise6() {
-        TogetherOrders x = parts(6);
+        TogetherOrders x = Things.parts(6);
         DUE.is("6: 4 and 2", true, x.group(4, 2));
         DUE.is("6: again", false, x.group(4, 2));
         DUE.is("6: other way", false, x.group(2, 4));
@@ -216,14 +169,14 @@ public final class PromisesTest {
         DUE.is("6: run", 2, x.run());
         DUE.is("6: bits", 61, x.step(1, 2));
         DUE.is("6: item", 0, x.step(1, 0));
-        DUE.noArgument("6: same", () -> Due.bit(x.group(1, 1)));
-        DUE.noIndex("6: 6", () -> Due.bit(x.group(6, 6)));
-        DUE.noIndex("6: -1", () -> Due.bit(x.group(0, -1)));
-        DUE.noIndex("6: -1", () -> Due.bit(x.group(-1, 0)));
+        DUE.noArgument("6: same", () -> x.group(1, 1));
+        DUE.noIndex("6: 6", () -> x.group(6, 6));
+        DUE.noIndex("6: -1", () -> x.group(0, -1));
+        DUE.noIndex("6: -1", () -> x.group(-1, 0));
     }
 
     private static void promise7() {
-        TogetherOrders x = parts(3);
+        TogetherOrders x = Things.parts(3);
         x.box(0, 0, 0, 0, 2, 2);
         x.box(1, 5, 1, 0, 2, 2);
         boolean[] want = {false, true, true, true, true, true};
@@ -246,18 +199,18 @@ public final class PromisesTest {
         for (int d = 0; d < 6; d++) {
             DUE.is("7: what overlaps bars each way", false, x.free(0, d, 4));
         }
-        DUE.noIndex("7: part 3", () -> Due.bit(x.free(3, 0, -1)));
-        DUE.noIndex("7: part -1", () -> Due.bit(x.free(-1, 0, 0)));
-        DUE.noIndex("7: direction -1", () -> Due.bit(x.free(0, -1, 8)));
-        DUE.noIndex("7: direction 6", () -> Due.bit(x.free(0, 6, 8)));
-        DUE.noArgument("7: bit 3", () -> Due.bit(x.free(0, 0, 8)));
-        DUE.noArgument("7: bit 63", () -> Due.bit(x.free(0, 0, Long.MIN_VALUE)));
-        DUE.noArgument("7: bit 32", () -> Due.bit(x.free(0, 0, 1L << 32)));
-        DUE.noArgument("7: bit 32 and some", () -> Due.bit(x.free(0, 0, (1L << 32) + 1)));
+        DUE.noIndex("7: part 3", () -> x.free(3, 0, -1));
+        DUE.noIndex("7: part -1", () -> x.free(-1, 0, 0));
+        DUE.noIndex("7: direction -1", () -> x.free(0, -1, 8));
+        DUE.noIndex("7: direction 6", () -> x.free(0, 6, 8));
+        DUE.noArgument("7: bit 3", () -> x.free(0, 0, 8));
+        DUE.noArgument("7: bit 63", () -> x.free(0, 0, Long.MIN_VALUE));
+        DUE.noArgument("7: bit 32", () -> x.free(0, 0, 1L << 32));
+        DUE.noArgument("7: bit 32 and some", () -> x.free(0, 0, (1L << 32) + 1));
     }
 
     private static void promise7Slants() {
-        TogetherOrders x = parts(2);
+        TogetherOrders x = Things.parts(2);
         x.box(0, 0, 0, 0, 1, 1);
         x.box(1, 2, 0, 0, 1, 1);
         x.slant(1, 1, 0);
@@ -269,7 +222,7 @@ public final class PromisesTest {
         DUE.is("7: hits from there", false, x.free(1, 8, 1));
         x.slant(2, 1, 2);
         DUE.is("7: has risen before it is there", true, x.free(0, 9, 2));
-        TogetherOrders y = parts(2);
+        TogetherOrders y = Things.parts(2);
         y.box(0, 0, 0, 0, 1, 1);
         y.box(1, 1, 10, 0, 10, 1);
         y.slant(3, 7, 0);
@@ -278,7 +231,7 @@ public final class PromisesTest {
 
     /** Fractions that lie so near to one another that rounding would lose it. */
     private static void promise7Exact() {
-        TogetherOrders x = parts(3);
+        TogetherOrders x = Things.parts(3);
         x.box(0, 0, 0, 0, 1, 1);
         x.box(1, 999001, 998001, 0, 1, 1);
         x.slant(1000, 999, 0);
@@ -288,7 +241,7 @@ public final class PromisesTest {
         // In x from 999.999 on, in y until 998999 / 999, which is 999.99899..
         DUE.is("7: the times just miss", true, x.free(0, 6, 4));
         x.slant(1000, 1, 0);
-        TogetherOrders y = parts(2);
+        TogetherOrders y = Things.parts(2);
         y.box(0, -M, -M, -M, M, M);
         y.deep(0, M);
         y.box(1, M, M, M, M, M);
@@ -305,22 +258,22 @@ public final class PromisesTest {
     }
 
     private static void promise8() {
-        TogetherOrders x = cup();
+        TogetherOrders x = Things.cup();
         DUE.is("8: cup", 3, x.run());
         DUE.is("8: cup again", 3, x.run());
-        TogetherOrders y = lockedPair();
+        TogetherOrders y = Things.lockedPair();
         DUE.is("8: locked", 0, y.run());
         y.part();
         DUE.is("8: locked with one that goes", 0, y.run());
         y.group(0, 1);
         DUE.is("8: one item of both", 2, y.run());
-        TogetherOrders z = cup();
+        TogetherOrders z = Things.cup();
         z.group(0, 2);
         DUE.is("8: cup and lid are one", 0, z.run());
     }
 
     private static void promise9() {
-        TogetherOrders x = cup();
+        TogetherOrders x = Things.cup();
         DUE.noState("9: not run", () -> x.step(-1, 9));
         x.run();
         // The cup goes against z, the thing then along x, the lid along x.
@@ -339,14 +292,14 @@ public final class PromisesTest {
         DUE.noIndex("9: least step", () -> x.step(Integer.MIN_VALUE, 0));
         DUE.noArgument("9: what 3", () -> x.step(0, 3));
         DUE.noArgument("9: what -1", () -> x.step(2, -1));
-        TogetherOrders y = lockedPair();
+        TogetherOrders y = Things.lockedPair();
         y.run();
         DUE.noState("9: locked", () -> y.step(0, 0));
         DUE.noState("9: locked, first", () -> y.step(-1, 3));
     }
 
     private static void promise10() {
-        TogetherOrders x = lockedPair();
+        TogetherOrders x = Things.lockedPair();
         x.part();
         x.part();
         DUE.noState("10: not run", () -> x.apart(-1));
@@ -356,11 +309,11 @@ public final class PromisesTest {
         DUE.is("10: behind the last", NONE, x.apart(2));
         DUE.is("10: far behind", NONE, x.apart(Integer.MAX_VALUE));
         DUE.noIndex("10: -1", () -> x.apart(-1));
-        TogetherOrders z = parts(3);
+        TogetherOrders z = Things.parts(3);
         // Part 0 lies in the cup 1 under part 2, so that it waits for one of them.
-        block(z, 0, at(0, 0, 0), at(1, 1, 1));
-        shell(z, 1, 1, false);
-        block(z, 2, at(0, 0, 1), at(1, 1, 1));
+        Things.block(z, 0, Things.at(0, 0, 0), Things.at(1, 1, 1));
+        Things.shell(z, 1, 1, false);
+        Things.block(z, 2, Things.at(0, 0, 1), Things.at(1, 1, 1));
         z.run();
         DUE.is("10: the second goes first", 1, z.apart(0));
         DUE.is("10: then the least", 0, z.apart(1));
@@ -368,9 +321,9 @@ public final class PromisesTest {
     }
 
     private static void promise11() {
-        TogetherOrders x = parts(4);
-        shell(x, 3, 3, true);
-        block(x, 1, at(1, 1, 1), at(1, 1, 1));
+        TogetherOrders x = Things.parts(4);
+        Things.shell(x, 3, 3, true);
+        Things.block(x, 1, Things.at(1, 1, 1), Things.at(1, 1, 1));
         DUE.noState("11: not run", () -> x.locked(-1));
         x.run();
         DUE.is("11: first", 1, x.locked(0));
@@ -391,7 +344,7 @@ public final class PromisesTest {
     }
 
     private static void promise12() {
-        TogetherOrders x = cup();
+        TogetherOrders x = Things.cup();
         DUE.noState("12: not run", () -> x.stage(-1));
         x.run();
         DUE.is("12: first", 0, x.stage(0));
@@ -399,11 +352,11 @@ public final class PromisesTest {
         DUE.is("12: behind", NONE, x.stage(2));
         DUE.is("12: far behind", NONE, x.stage(Integer.MAX_VALUE));
         DUE.noIndex("12: -1", () -> x.stage(-1));
-        TogetherOrders y = lockedPair();
+        TogetherOrders y = Things.lockedPair();
         y.run();
         DUE.noState("12: locked", () -> y.stage(0));
         DUE.noState("12: locked, first", () -> y.stage(-1));
-        TogetherOrders z = parts(4);
+        TogetherOrders z = Things.parts(4);
         // Taken off: 0 along x, 1 against x (2 is before it), 2 along x, 3 along x.
         z.box(1, 0, 0, 0, 1, 1);
         z.box(2, 2, 0, 0, 1, 1);
@@ -416,13 +369,13 @@ public final class PromisesTest {
     }
 
     private static void promise13() {
-        TogetherOrders x = cup();
+        TogetherOrders x = Things.cup();
         DUE.noState("13: not run", x::turnings);
         x.run();
         // Lid, thing and cup one behind the other along z.
         DUE.is("13: none needed", 0, x.turnings());
         DUE.is("13: again", 0, x.turnings());
-        TogetherOrders y = lockedPair();
+        TogetherOrders y = Things.lockedPair();
         y.run();
         DUE.is("13: locked", NONE, y.turnings());
         y.part();
@@ -434,18 +387,18 @@ public final class PromisesTest {
     }
 
     private static void promise13NeedsDirections() {
-        TogetherOrders x = parts(3);
+        TogetherOrders x = Things.parts(3);
         // A rail that is open along x only with a slide in it; a plug along y shuts it on both ends.
-        block(x, 0, at(0, -1, -1), at(9, 1, 3));
-        block(x, 0, at(0, 1, -1), at(9, 1, 3));
-        block(x, 0, at(0, -1, -1), at(9, 3, 1));
-        block(x, 0, at(0, -1, 1), at(9, 3, 1));
-        block(x, 1, at(3, 0, 0), at(2, 1, 1));
-        block(x, 2, at(-1, 0, 0), at(1, 1, 1));
-        block(x, 2, at(9, 0, 0), at(1, 1, 1));
-        block(x, 2, at(-1, 2, 0), at(11, 1, 1));
-        block(x, 2, at(-1, 0, 0), at(1, 3, 1));
-        block(x, 2, at(9, 0, 0), at(1, 3, 1));
+        Things.block(x, 0, Things.at(0, -1, -1), Things.at(9, 1, 3));
+        Things.block(x, 0, Things.at(0, 1, -1), Things.at(9, 1, 3));
+        Things.block(x, 0, Things.at(0, -1, -1), Things.at(9, 3, 1));
+        Things.block(x, 0, Things.at(0, -1, 1), Things.at(9, 3, 1));
+        Things.block(x, 1, Things.at(3, 0, 0), Things.at(2, 1, 1));
+        Things.block(x, 2, Things.at(-1, 0, 0), Things.at(1, 1, 1));
+        Things.block(x, 2, Things.at(9, 0, 0), Things.at(1, 1, 1));
+        Things.block(x, 2, Things.at(-1, 2, 0), Things.at(11, 1, 1));
+        Things.block(x, 2, Things.at(-1, 0, 0), Things.at(1, 3, 1));
+        Things.block(x, 2, Things.at(9, 0, 0), Things.at(1, 3, 1));
         DUE.is("13: rail runs", 3, x.run());
         DUE.is("13: one turning", 1, x.turnings());
         DUE.is("13: the slide waits for the plug", 1, x.out(1));
@@ -453,7 +406,7 @@ public final class PromisesTest {
         x.slant(0, 1, 0);
         x.run();
         DUE.is("13: a like slant spares none", 1, x.turnings());
-        TogetherOrders y = parts(2);
+        TogetherOrders y = Things.parts(2);
         y.box(0, 0, 0, 0, 1, 1);
         y.slant(0, 0, 1);
         y.run();
@@ -461,14 +414,14 @@ public final class PromisesTest {
     }
 
     private static void promise14() {
-        TogetherOrders x = parts(1);
+        TogetherOrders x = Things.parts(1);
         DUE.noState("14: not run", () -> x.two(3));
         x.run();
         DUE.is("14: free at once", 1, x.two(0));
         DUE.is("14: free at once", 1, x.two(2));
         DUE.noArgument("14: 3", () -> x.two(3));
         DUE.noArgument("14: -1", () -> x.two(-1));
-        TogetherOrders y = lockedPair();
+        TogetherOrders y = Things.lockedPair();
         y.run();
         DUE.is("14: closed for good", 0, y.two(0));
         DUE.is("14: closed for good", 0, y.two(1));
@@ -481,23 +434,10 @@ public final class PromisesTest {
         DUE.is("14: but not if it is of the shell", 0, y.two(2));
     }
 
-    /** A shell of edge 3 with a hole of 1 in its wall at x, y, and a thing of 1 at a place in it. */
-    private static TogetherOrders holed(long thingX, long thingY, long thingZ) {
-        TogetherOrders x = parts(2);
-        shell(x, 0, 3, false);
-        // The lid has its hole over 2, 2.
-        block(x, 0, at(-1, -1, 3), at(3, 5, 1));
-        block(x, 0, at(3, -1, 3), at(1, 5, 1));
-        block(x, 0, at(2, -1, 3), at(1, 3, 1));
-        block(x, 0, at(2, 3, 3), at(1, 1, 1));
-        block(x, 1, at(thingX, thingY, thingZ), at(1, 1, 1));
-        return x;
-    }
-
     private static void promise14TwoMoves() {
         long[][] places = {{2, 2, 0, 1}, {1, 2, 0, 2}, {2, 1, 1, 2}, {1, 1, 2, 3}, {0, 2, 0, 3}, {0, 1, 1, 0}};
         for (long[] p : places) {
-            TogetherOrders x = holed(p[0], p[1], p[2]);
+            TogetherOrders x = Things.holed(p[0], p[1], p[2]);
             x.run();
             String name = "14: thing at " + p[0] + " " + p[1] + " " + p[2];
             DUE.is(name + " two(2)", p[3], x.two(2));
@@ -505,9 +445,9 @@ public final class PromisesTest {
             DUE.is(name + " two(0)", p[3] <= 1 ? p[3] : 0, x.two(0));
             DUE.is(name + " two(2) again", p[3], x.two(2));
         }
-        TogetherOrders z = holed(1, 2, 1);
+        TogetherOrders z = Things.holed(1, 2, 1);
         z.part();
-        block(z, 2, at(2, 2, 1), at(1, 1, 1));
+        Things.block(z, 2, Things.at(2, 2, 1), Things.at(1, 1, 1));
         z.run();
         DUE.is("14: another one is free", 1, z.two(0));
         z.group(0, 2);
@@ -518,13 +458,13 @@ public final class PromisesTest {
 
     /** A shell with a hole of 3 along x in its lid, which a thing may leave along a slant. */
     private static void promise14Slant() {
-        TogetherOrders x = parts(2);
-        shell(x, 0, 5, false);
-        block(x, 0, at(-1, -1, 5), at(3, 7, 1));
-        block(x, 0, at(2, -1, 5), at(4, 3, 1));
-        block(x, 0, at(2, 3, 5), at(4, 3, 1));
-        block(x, 0, at(5, -1, 5), at(1, 7, 1));
-        block(x, 1, at(0, 1, 2), at(1, 1, 1));
+        TogetherOrders x = Things.parts(2);
+        Things.shell(x, 0, 5, false);
+        Things.block(x, 0, Things.at(-1, -1, 5), Things.at(3, 7, 1));
+        Things.block(x, 0, Things.at(2, -1, 5), Things.at(4, 3, 1));
+        Things.block(x, 0, Things.at(2, 3, 5), Things.at(4, 3, 1));
+        Things.block(x, 0, Things.at(5, -1, 5), Things.at(1, 7, 1));
+        Things.block(x, 1, Things.at(0, 1, 2), Things.at(1, 1, 1));
         x.run();
         DUE.is("14: too far without a slant", 0, x.two(2));
         x.slant(1, 0, 1);
@@ -535,18 +475,18 @@ public final class PromisesTest {
     }
 
     private static void promise14Overlaps() {
-        TogetherOrders x = parts(2);
+        TogetherOrders x = Things.parts(2);
         x.box(0, 0, 0, 0, 3, 3);
         x.box(1, 2, 1, 0, 3, 3);
         x.run();
         DUE.is("14: what overlaps by 1 is free behind a move", 0, x.two(0));
         DUE.is("14: what overlaps by 1 is free behind a move", 2, x.two(1));
-        TogetherOrders y = parts(2);
-        block(y, 0, at(0, 0, 0), at(4, 4, 4));
-        block(y, 1, at(2, 2, 2), at(4, 4, 4));
+        TogetherOrders y = Things.parts(2);
+        Things.block(y, 0, Things.at(0, 0, 0), Things.at(4, 4, 4));
+        Things.block(y, 1, Things.at(2, 2, 2), Things.at(4, 4, 4));
         y.run();
         DUE.is("14: no move leaves it without overlap", 0, y.two(2));
-        TogetherOrders z = parts(3);
+        TogetherOrders z = Things.parts(3);
         z.box(0, 0, 0, 0, 3, 3);
         z.box(0, 1, 1, 0, 1, 1);
         z.box(1, 0, 0, 1, 3, 3);
@@ -558,7 +498,7 @@ public final class PromisesTest {
     }
 
     private static void promise15() {
-        TogetherOrders x = parts(5);
+        TogetherOrders x = Things.parts(5);
         DUE.noState("15: not run", () -> x.hands(0, -1));
         x.run();
         int[] two = {2, 2, 1, 0, 0};
@@ -575,13 +515,13 @@ public final class PromisesTest {
         DUE.noIndex("15: k below 0", () -> x.hands(0, -1));
         DUE.noArgument("15: 0", () -> x.hands(0, 0));
         DUE.noArgument("15: 13", () -> x.hands(13, 0));
-        TogetherOrders y = cup();
+        TogetherOrders y = Things.cup();
         y.run();
         // The cup and the lid are free when it begins; the thing only when the round is over.
         DUE.is("15: cup and lid", 2, y.hands(3, 0));
         DUE.is("15: then the thing", 1, y.hands(3, 1));
         DUE.is("15: nothing", 0, y.hands(3, 2));
-        TogetherOrders z = lockedPair();
+        TogetherOrders z = Things.lockedPair();
         z.part();
         z.run();
         DUE.is("15: the one that goes", 1, z.hands(12, 0));
@@ -589,7 +529,7 @@ public final class PromisesTest {
     }
 
     private static void promise16() {
-        TogetherOrders x = cup();
+        TogetherOrders x = Things.cup();
         DUE.noState("16: not run", () -> x.out(-1));
         x.run();
         DUE.is("16: cup", 0, x.out(0));
@@ -597,15 +537,15 @@ public final class PromisesTest {
         DUE.is("16: lid", 0, x.out(2));
         DUE.noIndex("16: -1", () -> x.out(-1));
         DUE.noIndex("16: 3", () -> x.out(3));
-        TogetherOrders y = lockedPair();
+        TogetherOrders y = Things.lockedPair();
         y.part();
         y.run();
         DUE.is("16: locked", NONE, y.out(0));
         DUE.is("16: locked", NONE, y.out(1));
         DUE.is("16: goes at once", 0, y.out(2));
         // Boxes in boxes: each shell has its own lid, the thing is in the innermost.
-        TogetherOrders z = parts(5);
-        block(z, 0, at(0, 0, 0), at(1, 1, 1));
+        TogetherOrders z = Things.parts(5);
+        Things.block(z, 0, Things.at(0, 0, 0), Things.at(1, 1, 1));
         nested(z, 1, 2, 0);
         nested(z, 3, 4, 2);
         z.run();
@@ -626,35 +566,35 @@ public final class PromisesTest {
     private static void nested(TogetherOrders x, int cup, int lid, long by) {
         long edge = 3 + 2 * by;
         long from = -1 - by;
-        block(x, cup, at(from, from, from), at(1, edge, edge));
-        block(x, cup, at(-from, from, from), at(1, edge, edge));
-        block(x, cup, at(from, from, from), at(edge, 1, edge));
-        block(x, cup, at(from, -from, from), at(edge, 1, edge));
-        block(x, cup, at(from, from, from), at(edge, edge, 1));
-        block(x, lid, at(from + 1, from + 1, -from), at(edge - 2, edge - 2, 1));
+        Things.block(x, cup, Things.at(from, from, from), Things.at(1, edge, edge));
+        Things.block(x, cup, Things.at(-from, from, from), Things.at(1, edge, edge));
+        Things.block(x, cup, Things.at(from, from, from), Things.at(edge, 1, edge));
+        Things.block(x, cup, Things.at(from, -from, from), Things.at(edge, 1, edge));
+        Things.block(x, cup, Things.at(from, from, from), Things.at(edge, edge, 1));
+        Things.block(x, lid, Things.at(from + 1, from + 1, -from), Things.at(edge - 2, edge - 2, 1));
     }
 
     private static void promise17() {
-        TogetherOrders x = parts(2);
-        DUE.noArgument("17: same", () -> Due.bit(x.glue(1, 1, 0)));
-        DUE.noArgument("17: -1 minutes", () -> Due.bit(x.glue(0, 1, -1)));
-        DUE.noArgument("17: 1001 minutes", () -> Due.bit(x.glue(0, 1, 1001)));
-        DUE.noIndex("17: part 2", () -> Due.bit(x.glue(2, 2, -1)));
-        DUE.noIndex("17: part 2", () -> Due.bit(x.glue(0, 2, 0)));
-        DUE.noIndex("17: part -1", () -> Due.bit(x.glue(-1, 0, 0)));
-        DUE.noIndex("17: part -1", () -> Due.bit(x.glue(0, -1, 0)));
+        TogetherOrders x = Things.parts(2);
+        DUE.noArgument("17: same", () -> x.glue(1, 1, 0));
+        DUE.noArgument("17: -1 minutes", () -> x.glue(0, 1, -1));
+        DUE.noArgument("17: 1001 minutes", () -> x.glue(0, 1, 1001));
+        DUE.noIndex("17: part 2", () -> x.glue(2, 2, -1));
+        DUE.noIndex("17: part 2", () -> x.glue(0, 2, 0));
+        DUE.noIndex("17: part -1", () -> x.glue(-1, 0, 0));
+        DUE.noIndex("17: part -1", () -> x.glue(0, -1, 0));
         for (int i = 0; i < 16; i++) {
             DUE.is("17: room", true, x.glue(i % 2, 1 - i % 2, i == 0 ? 1000 : 1));
         }
         DUE.is("17: no room", false, x.glue(0, 1, 0));
-        DUE.noArgument("17: no room, same", () -> Due.bit(x.glue(0, 0, 0)));
+        DUE.noArgument("17: no room, same", () -> x.glue(0, 0, 0));
         x.run();
         DUE.is("17: what had no room is not glued", true, x.keeps());
     }
 
     private static void promise18() {
-        TogetherOrders x = parts(4);
-        DUE.noState("18: not run", () -> Due.bit(x.keeps()));
+        TogetherOrders x = Things.parts(4);
+        DUE.noState("18: not run", () -> x.keeps());
         x.run();
         DUE.is("18: no glue", true, x.keeps());
         x.glue(0, 2, 2);
@@ -664,20 +604,20 @@ public final class PromisesTest {
         x.glue(3, 1, 1);
         DUE.is("18: one step too far", false, x.keeps());
         x.group(1, 2);
-        DUE.noState("18: not run since", () -> Due.bit(x.keeps()));
+        DUE.noState("18: not run since", () -> x.keeps());
         x.run();
         DUE.is("18: items are nearer", true, x.keeps());
         x.glue(1, 2, 0);
         DUE.is("18: one step", true, x.keeps());
         x.glue(0, 1, 0);
         DUE.is("18: 0 steps", false, x.keeps());
-        TogetherOrders y = lockedPair();
+        TogetherOrders y = Things.lockedPair();
         y.run();
-        DUE.noState("18: locked", () -> Due.bit(y.keeps()));
+        DUE.noState("18: locked", () -> y.keeps());
     }
 
     private static void promise19() {
-        TogetherOrders x = parts(4);
+        TogetherOrders x = Things.parts(4);
         x.box(0, 0, 0, 0, 5, 2);
         x.box(0, -3, 0, 0, 1, 2);
         x.box(1, 4, 3, 0, 1, 1);
@@ -713,13 +653,13 @@ public final class PromisesTest {
         DUE.noState(why + " two", () -> x.two(0));
         DUE.noState(why + " hands", () -> x.hands(1, 0));
         DUE.noState(why + " out", () -> x.out(0));
-        DUE.noState(why + " keeps", () -> Due.bit(x.keeps()));
+        DUE.noState(why + " keeps", () -> x.keeps());
         x.run();
         DUE.is(why + " run again", 0, x.step(0, 1));
     }
 
     private static void runIsForgotten() {
-        TogetherOrders x = parts(2);
+        TogetherOrders x = Things.parts(2);
         x.run();
         x.part();
         needsRun("part told:", x);
@@ -744,22 +684,22 @@ public final class PromisesTest {
     }
 
     private static void throwsChangeNothing() {
-        TogetherOrders x = cup();
+        TogetherOrders x = Things.cup();
         x.glue(0, 1, 2);
         x.run();
         DUE.noIndex("box", () -> x.box(3, 0, 0, 0, 1, 1));
         DUE.noArgument("box", () -> x.box(0, 0, 0, M + 1, 1, 1));
-        DUE.noIndex("deep", () -> Due.bit(x.deep(7, 1)));
-        DUE.noArgument("deep", () -> Due.bit(x.deep(6, 0)));
-        DUE.noArgument("slant", () -> Due.bit(x.slant(0, 0, 0)));
-        DUE.noIndex("group", () -> Due.bit(x.group(0, 3)));
-        DUE.noArgument("group", () -> Due.bit(x.group(0, 0)));
-        DUE.noArgument("glue", () -> Due.bit(x.glue(0, 1, -1)));
+        DUE.noIndex("deep", () -> x.deep(7, 1));
+        DUE.noArgument("deep", () -> x.deep(6, 0));
+        DUE.noArgument("slant", () -> x.slant(0, 0, 0));
+        DUE.noIndex("group", () -> x.group(0, 3));
+        DUE.noArgument("group", () -> x.group(0, 0));
+        DUE.noArgument("glue", () -> x.glue(0, 1, -1));
         DUE.noArgument("two", () -> x.two(9));
         DUE.is("still run", true, x.keeps());
         DUE.is("still run", 2, x.stage(1));
         DUE.is("no box was added", 7, x.box(0, 0, 0, -1, 1, 1));
         DUE.is("no group was told", 3, x.run());
-        DUE.noIndex("no slant was told", () -> Due.bit(x.free(0, 6, 0)));
+        DUE.noIndex("no slant was told", () -> x.free(0, 6, 0));
     }
 }
