@@ -431,12 +431,15 @@ public final class EdgesOfAskingTest {
         Things.dot(x, x.part(), Things.at(40, 40, 0));
     }
 
+    /** The innermost one's arm keeps 4 in its bore, and 4 keeps part 0 from going against x. */
     static void promise13_theLastNumberGoesFirst() {
         TogetherOrders x = bores();
+        Things.dot(x, 1, Things.at(40, 60, 0));
         DUE.is("run", 5, x.run());
         DUE.is("first", 3, x.apart(0));
         DUE.is("turnings", 1, x.turnings());
         DUE.is("innermost", 2, x.out(1));
+        DUE.is("in the other bore", 3, x.out(4));
     }
 
     static void promise13_outIsAskedBefore() {
@@ -585,19 +588,12 @@ public final class EdgesOfAskingTest {
     }
 
     static void promise14_freeAlongASlantBehindAMove() {
-        TogetherOrders x = Things.holed(0, 2, 2);
-        DUE.is("locked", 0, x.run());
-        DUE.is("two(1)", 0, x.two(1));
-        x.slant(1, 0, 1000);
+        TogetherOrders x = ran(wideHoled());
+        DUE.is("two(2) without a slant", 0, x.two(2));
+        x.slant(1, 0, 1);
         x.run();
-        DUE.is("two(1), too far off", 0, x.two(1));
-        TogetherOrders y = wideHoled();
-        y.run();
-        DUE.is("two(2) without a slant", 0, y.two(2));
-        y.slant(1, 0, 1);
-        y.run();
-        DUE.is("two(0) with a slant", 0, y.two(0));
-        DUE.is("two(1) with a slant", 2, y.two(1));
+        DUE.is("two(0) with a slant", 0, x.two(0));
+        DUE.is("two(1) with a slant", 2, x.two(1));
     }
 
     /** A lid with a hole of 3 along x, so that what is low enough leaves by a slant. */
@@ -691,6 +687,23 @@ public final class EdgesOfAskingTest {
         x.run();
         DUE.is("two(0)", 0, x.two(0));
         DUE.is("two(1)", 2, x.two(1));
+    }
+
+    static void promise14_twelveParts() {
+        DUE.is("one can go", 1, ran(Things.chain()).two(2));
+        TogetherOrders x = Things.parts(12);
+        for (int i = 0; i < 12; i++) {
+            Things.dot(x, i, Things.at(0, 0, 0));
+        }
+        x.run();
+        DUE.is("no move", 0, x.two(0));
+        DUE.is("one move away from the others", 2, x.two(1));
+        TogetherOrders y = Things.parts(12);
+        for (int i = 0; i < 12; i++) {
+            Things.block(y, i, Things.at(0, 0, 0), Things.at(2, 2, 2));
+        }
+        y.run();
+        DUE.is("one move leaves an overlap", 0, y.two(2));
     }
 
     // Promise 15: hands. 0 behind the last; n 1 .. 12.

@@ -70,6 +70,33 @@ public final class EdgesOfTermsTest {
         }
     }
 
+    /** All boxes are looked at to the last, and none behind it. */
+    static void boxes_40AndAllIsAsked() {
+        TogetherOrders x = Things.parts(3);
+        for (int i = 0; i < 40; i++) {
+            x.box(i % 2, 3 * i, 0, 0, 1, 1);
+        }
+        DUE.is("free(0, 2, 7)", true, x.free(0, 2, 7));
+        DUE.is("free(1, 0, 7)", false, x.free(1, 0, 7));
+        DUE.is("free(2, 0, 7)", true, x.free(2, 0, 7));
+        DUE.is("clamp(0, 1, 118)", 0, x.clamp(0, 1, 118));
+        DUE.is("clamp(0, 1, 117)", 1, x.clamp(0, 1, 117));
+        DUE.is("clamp(0, 2, 118)", NONE, x.clamp(0, 2, 118));
+        DUE.is("clamp(2, 2, 118)", NONE, x.clamp(2, 2, 118));
+        DUE.is("run()", 3, x.run());
+        DUE.is("two(2)", 1, x.two(2));
+    }
+
+    /** Part 0 has no box at 0, 0, 0 where none was told. */
+    static void boxes_noneIsThereUntold() {
+        TogetherOrders x = Things.parts(2);
+        Things.block(x, 1, Things.at(5, -1, -1), Things.at(2, 2, 2));
+        DUE.is("free without boxes", true, x.free(0, 0, 2));
+        Things.dot(x, 0, Things.at(0, 9, 0));
+        DUE.is("free with a box beside", true, x.free(0, 0, 2));
+        DUE.is("clamp", 0, x.clamp(0, 0, 1));
+    }
+
     static void boxes_eachOneOfAPartBars() {
         for (int which = 0; which < 39; which++) {
             TogetherOrders x = Things.parts(2);
