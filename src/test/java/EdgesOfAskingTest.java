@@ -69,12 +69,7 @@ public final class EdgesOfAskingTest {
     }
 
     static void promise08_freedByASlant() {
-        TogetherOrders x = Things.parts(2);
-        long[][] walls = {{-1, 0, 0}, {0, -1, 0}, {0, 1, 0}, {0, 0, -1}, {9, 0, 0}, {0, 0, 9}};
-        Things.dot(x, 0, Things.at(0, 0, 0));
-        for (long[] wall : walls) {
-            Things.dot(x, 1, wall);
-        }
+        TogetherOrders x = Things.slit();
         DUE.is("run", 0, x.run());
         x.slant(1, 0, 1);
         DUE.is("run with a slant", 2, x.run());
@@ -588,24 +583,12 @@ public final class EdgesOfAskingTest {
     }
 
     static void promise14_freeAlongASlantBehindAMove() {
-        TogetherOrders x = ran(wideHoled());
+        TogetherOrders x = ran(Things.wideHoled());
         DUE.is("two(2) without a slant", 0, x.two(2));
         x.slant(1, 0, 1);
         x.run();
         DUE.is("two(0) with a slant", 0, x.two(0));
         DUE.is("two(1) with a slant", 2, x.two(1));
-    }
-
-    /** A lid with a hole of 3 along x, so that what is low enough leaves by a slant. */
-    private static TogetherOrders wideHoled() {
-        TogetherOrders x = Things.parts(2);
-        Things.shell(x, 0, 5, false);
-        Things.block(x, 0, Things.at(-1, -1, 5), Things.at(3, 7, 1));
-        Things.block(x, 0, Things.at(2, -1, 5), Things.at(4, 3, 1));
-        Things.block(x, 0, Things.at(2, 3, 5), Things.at(4, 3, 1));
-        Things.block(x, 0, Things.at(5, -1, 5), Things.at(1, 7, 1));
-        Things.block(x, 1, Things.at(0, 1, 2), Things.at(1, 1, 1));
-        return x;
     }
 
     /** A stop as high as the shell lies under the hole, and is too long to leave by it. */

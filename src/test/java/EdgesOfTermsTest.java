@@ -373,12 +373,7 @@ public final class EdgesOfTermsTest {
 
     static void takenApart_bySlants6To9() {
         for (int last = 6; last <= 9; last++) {
-            TogetherOrders x = Things.parts(2);
-            long[][] walls = {{-1, 0, 0}, {0, -1, 0}, {0, 1, 0}, {0, 0, -1}, {9, 0, 0}, {0, 0, 9}};
-            Things.dot(x, 0, Things.at(0, 0, 0));
-            for (long[] wall : walls) {
-                Things.dot(x, 1, wall);
-            }
+            TogetherOrders x = Things.slit();
             for (int way = 6; way < last; way++) {
                 x.slant(-1, 0, 0);
             }

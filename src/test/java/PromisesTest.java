@@ -30,8 +30,6 @@ public final class PromisesTest {
         promise17();
         promise18();
         promise19();
-        runIsForgotten();
-        throwsChangeNothing();
         DUE.end();
     }
 
@@ -456,15 +454,8 @@ public final class PromisesTest {
         DUE.is("14: over it leads another way", 3, z.two(2));
     }
 
-    /** A shell with a hole of 3 along x in its lid, which a thing may leave along a slant. */
     private static void promise14Slant() {
-        TogetherOrders x = Things.parts(2);
-        Things.shell(x, 0, 5, false);
-        Things.block(x, 0, Things.at(-1, -1, 5), Things.at(3, 7, 1));
-        Things.block(x, 0, Things.at(2, -1, 5), Things.at(4, 3, 1));
-        Things.block(x, 0, Things.at(2, 3, 5), Things.at(4, 3, 1));
-        Things.block(x, 0, Things.at(5, -1, 5), Things.at(1, 7, 1));
-        Things.block(x, 1, Things.at(0, 1, 2), Things.at(1, 1, 1));
+        TogetherOrders x = Things.wideHoled();
         x.run();
         DUE.is("14: too far without a slant", 0, x.two(2));
         x.slant(1, 0, 1);
@@ -642,64 +633,5 @@ public final class PromisesTest {
         DUE.noIndex("19: part -1", () -> x.clamp(-1, 0, 1));
         DUE.noArgument("19: -1", () -> x.clamp(0, 1, -1));
         DUE.noArgument("19: -1, no boxes", () -> x.clamp(0, 2, Long.MIN_VALUE));
-    }
-
-    private static void needsRun(String why, TogetherOrders x) {
-        DUE.noState(why + " step", () -> x.step(0, 0));
-        DUE.noState(why + " apart", () -> x.apart(0));
-        DUE.noState(why + " locked", () -> x.locked(0));
-        DUE.noState(why + " stage", () -> x.stage(0));
-        DUE.noState(why + " turnings", x::turnings);
-        DUE.noState(why + " two", () -> x.two(0));
-        DUE.noState(why + " hands", () -> x.hands(1, 0));
-        DUE.noState(why + " out", () -> x.out(0));
-        DUE.noState(why + " keeps", () -> x.keeps());
-        x.run();
-        DUE.is(why + " run again", 0, x.step(0, 1));
-    }
-
-    private static void runIsForgotten() {
-        TogetherOrders x = Things.parts(2);
-        x.run();
-        x.part();
-        needsRun("part told:", x);
-        x.box(0, 0, 0, 0, 1, 1);
-        needsRun("box told:", x);
-        x.deep(0, 2);
-        needsRun("other size:", x);
-        for (int i = 0; i < 4; i++) {
-            x.slant(1, 1, i);
-            needsRun("slant told:", x);
-        }
-        x.group(0, 1);
-        needsRun("group told:", x);
-        x.deep(0, 2);
-        x.slant(1, 0, 0);
-        x.group(1, 0);
-        x.glue(0, 1, 5);
-        x.clamp(0, 1, 5);
-        x.free(0, 0, 2);
-        DUE.is("what tells nothing leaves the run", 0, x.turnings());
-        DUE.is("what tells nothing leaves the run", true, x.keeps());
-    }
-
-    private static void throwsChangeNothing() {
-        TogetherOrders x = Things.cup();
-        x.glue(0, 1, 2);
-        x.run();
-        DUE.noIndex("box", () -> x.box(3, 0, 0, 0, 1, 1));
-        DUE.noArgument("box", () -> x.box(0, 0, 0, M + 1, 1, 1));
-        DUE.noIndex("deep", () -> x.deep(7, 1));
-        DUE.noArgument("deep", () -> x.deep(6, 0));
-        DUE.noArgument("slant", () -> x.slant(0, 0, 0));
-        DUE.noIndex("group", () -> x.group(0, 3));
-        DUE.noArgument("group", () -> x.group(0, 0));
-        DUE.noArgument("glue", () -> x.glue(0, 1, -1));
-        DUE.noArgument("two", () -> x.two(9));
-        DUE.is("still run", true, x.keeps());
-        DUE.is("still run", 2, x.stage(1));
-        DUE.is("no box was added", 7, x.box(0, 0, 0, -1, 1, 1));
-        DUE.is("no group was told", 3, x.run());
-        DUE.noIndex("no slant was told", () -> x.free(0, 6, 0));
     }
 }

@@ -68,6 +68,29 @@ final class Things {
         return x;
     }
 
+    /** A lid with a hole of 3 along x, so that what is low enough leaves by a slant. */
+    static TogetherOrders wideHoled() {
+        TogetherOrders x = parts(2);
+        shell(x, 0, 5, false);
+        block(x, 0, at(-1, -1, 5), at(3, 7, 1));
+        block(x, 0, at(2, -1, 5), at(4, 3, 1));
+        block(x, 0, at(2, 3, 5), at(4, 3, 1));
+        block(x, 0, at(5, -1, 5), at(1, 7, 1));
+        block(x, 1, at(0, 1, 2), at(1, 1, 1));
+        return x;
+    }
+
+    /** Part 0 is barred along each axis by dots of part 1; a slant along x and z leads out between. */
+    static TogetherOrders slit() {
+        TogetherOrders x = parts(2);
+        long[][] walls = {{-1, 0, 0}, {0, -1, 0}, {0, 1, 0}, {0, 0, -1}, {9, 0, 0}, {0, 0, 9}};
+        dot(x, 0, at(0, 0, 0));
+        for (long[] wall : walls) {
+            dot(x, 1, wall);
+        }
+        return x;
+    }
+
     /** Twelve parts in the same place: all are locked, and no small moves help. */
     static TogetherOrders heap() {
         TogetherOrders x = parts(12);
