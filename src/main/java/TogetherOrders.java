@@ -728,13 +728,6 @@ public final class TogetherOrders {
             }
         }
 
-        private void leave(int set) {
-            int word = set >> 6;
-            if (word >= 0 && word < SET_WORDS) {
-                reached[word] &= ~(1L << (set & 63));
-            }
-        }
-
         /** The least number of other items that go before an item; NONE if it is locked. */
         int leastBefore(int item) {
             if (!knowsBefore) {
@@ -800,17 +793,12 @@ public final class TogetherOrders {
         /** Goes up, so that what is reached here, being less, waits for the next direction. */
         private boolean isEmptiedByOneMore(int all) {
             for (int left = 1; left <= all; left++) {
-                if (isReached(left)) {
-                    leave(left);
-                    for (int way = 0; way < ways.count; way++) {
-                        int rest = bars.leftBehind(left, way);
-                        if (rest == 0) {
-                            return true;
-                        }
-                        if (rest != left) {
-                            reach(rest);
-                        }
+                for (int way = 0; way < ways.count && isReached(left); way++) {
+                    int rest = bars.leftBehind(left, way);
+                    if (rest == 0) {
+                        return true;
                     }
+                    reach(rest);
                 }
             }
             return false;

@@ -437,6 +437,15 @@ public final class EdgesOfAskingTest {
         DUE.is("in the other bore", 3, x.out(4));
     }
 
+    /** Each one waits for the number behind it, down to the least one. */
+    static void promise13_twelveAlongOneSlant() {
+        TogetherOrders x = Things.slide();
+        DUE.is("run", 12, x.run());
+        DUE.is("first", 11, x.apart(0));
+        DUE.is("its direction", 6, x.step(11, 1));
+        DUE.is("turnings", 0, x.turnings());
+    }
+
     static void promise13_outIsAskedBefore() {
         TogetherOrders x = ran(Things.chain());
         DUE.is("out", 9, x.out(9));
@@ -758,6 +767,14 @@ public final class EdgesOfAskingTest {
         DUE.is("one hand, behind the last", 0, x.hands(1, 12));
     }
 
+    static void promise15_asManyRoundsAsCanBe() {
+        TogetherOrders x = ran(Things.slide());
+        for (int k = 0; k < 12; k++) {
+            DUE.is("round " + k, 1, x.hands(12, k));
+        }
+        DUE.is("behind the last", 0, x.hands(12, 12));
+    }
+
     static void promise15_lockedOnesNeverGo() {
         TogetherOrders x = ran(halfLocked());
         DUE.is("round 0", 2, x.hands(12, 0));
@@ -829,6 +846,13 @@ public final class EdgesOfAskingTest {
     }
 
     static void promise16_leastAndGreatestNumber() {
+        TogetherOrders x = ran(Things.slide());
+        for (int part = 0; part < 12; part++) {
+            DUE.is("out(" + part + ")", 11 - part, x.out(part));
+        }
+    }
+
+    static void promise16_oneBehindTheOther() {
         TogetherOrders x = ran(Things.chain());
         for (int part = 0; part < 11; part++) {
             DUE.is("out(" + part + ")", part, x.out(part));

@@ -123,6 +123,25 @@ final class Things {
         return x;
     }
 
+    /**
+     * Eleven dots behind one another on a slant along x and y, which is direction 6; part 0 bars
+     * them along each axis and back along the slant. They go from 11 down to 1, then part 0.
+     */
+    static TogetherOrders slide() {
+        TogetherOrders x = parts(12);
+        block(x, 0, at(-10, -50, -5), at(1, 100, 10));
+        block(x, 0, at(-50, -10, -5), at(100, 1, 10));
+        block(x, 0, at(100, 0, -5), at(1, 50, 10));
+        block(x, 0, at(0, 100, -5), at(50, 1, 10));
+        block(x, 0, at(0, 0, -9), at(50, 50, 1));
+        block(x, 0, at(0, 0, 9), at(50, 50, 1));
+        for (int i = 1; i < 12; i++) {
+            dot(x, i, at(3 * i, 3 * i, 0));
+        }
+        x.slant(1, 1, 0);
+        return x;
+    }
+
     /** Twelve items that go in the order of their numbers, in turn against x and along x. */
     static TogetherOrders zigzag() {
         TogetherOrders x = parts(12);
